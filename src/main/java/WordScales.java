@@ -912,7 +912,7 @@ public final class WordScales {
         private int sentences = 0;
         private int spoken = 0;
         private int heaviest = NONE;
-        private int heaviestWeight = 0;
+        private int heaviestWeight = -1;
 
         /** NO if there is a fault, STATE if some act can not be, else FINE. */
         private int readAll(int[] signs, int count, Shop from) {
@@ -942,7 +942,7 @@ public final class WordScales {
             sentences = 0;
             spoken = 0;
             heaviest = NONE;
-            heaviestWeight = 0;
+            heaviestWeight = -1;
         }
 
         // Behind an act that can not be no act is tried any more, but faults must still be found.
@@ -979,7 +979,7 @@ public final class WordScales {
         }
 
         private void noteSpoken(int word, int weight) {
-            if (heaviest == NONE || weight > heaviestWeight) {
+            if (weight > heaviestWeight) {
                 heaviest = word;
                 heaviestWeight = weight;
             }

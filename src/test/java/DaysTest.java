@@ -48,6 +48,13 @@ public final class DaysTest {
         faultOf("A+m", 2);
         faultOf("A-.", 2);
         faultOf("A++a", 2);
+        faultOf("A--a", 2);
+        faultOf("A-+a", 2);
+        faultOf("A+-a", 2);
+        faultOf("A->Ba", 2);
+        faultOf("A>>Ba", 2);
+        faultOf("A>BCa", 3);
+        faultOf("Aa.A-lB", 7);
         faultOf("A>a", 2);
         faultOf("A>E", 2);
         faultOf("A>BB", 3);
@@ -263,6 +270,7 @@ public final class DaysTest {
         Check.due("said nothing: heaviest", x.said(2), NONE);
         Check.sayAnew(x, "AaAb.DcA+dDl");
         Check.due("said: in all", x.said(0), 4);
+        Check.due("said: in all, asked again", x.said(0), 4);
         Check.due("said: in none", x.said(1), 2);
         Check.due("said: heaviest, the first of several", x.said(2), 0);
         Check.sayAnew(x, "AaAb.");
@@ -282,6 +290,8 @@ public final class DaysTest {
         x.word(11, 0, 0);
         Check.sayAnew(x, "Dl");
         Check.due("said: one of no weight", x.said(2), 11);
+        x.wipe();
+        Check.due("said: nothing again", x.said(2), NONE);
         Check.due("said(-1)", x.said(-1), OUTSIDE);
         Check.due("said(3)", x.said(3), OUTSIDE);
         x.say('A');

@@ -164,6 +164,17 @@ public final class HollowTest {
         Check.due("synonyms: c most", x.synonyms(9, Integer.MAX_VALUE, 7, 0), OUTSIDE);
     }
 
+    // Promise 27: who is given a word is seen by the act behind it.
+    private static void giftsOfAYear() {
+        WordScales x = new WordScales();
+        x.speaker(0, 50, 1 << 11);
+        Check.due("year: A gives l to B, who speaks it", x.year(22, 2, 1), 119);
+        Check.due("year: A gives l to D, and buys it", x.year(214, 2, 0), 190);
+        x.speaker(0, 50, 1 << 9);
+        Check.due("year: A gives j to B, who hands it in", x.year(1633, 2, 2), 0);
+        Check.due("year: a half for what is handed in", x.year(1633, 2, 0), 205);
+    }
+
     // Promise 27
     private static void year() {
         WordScales x = new WordScales();
@@ -200,11 +211,13 @@ public final class HollowTest {
         Check.due("year: he gives it, purses stay", x.year(10, 1, 0), 999 + 50 + 999);
         x.speaker(2, 50, 4 + 64);
         Check.due("year: the other one has it already", x.year(10, 1, 2), 4);
+        giftsOfAYear();
         WordScales y = new WordScales();
-        y.word(0, 99, 2);
-        y.word(1, 0, 0);
-        y.word(2, 1, 1);
-        Check.due("year of 99 acts, the same twice", y.year(9999, 99, 0), y.year(9999, 99, 0));
+        Check.due("year of the last seed", y.year(9999, 1, 0), 190);
+        Check.due("year of 99 acts: purses", y.year(9999, 99, 0), 20);
+        Check.due("year of 99 acts: weights", y.year(9999, 99, 1), 116);
+        Check.due("year of 99 acts: words", y.year(9999, 99, 2), 15);
+        Check.due("year of seed 0", y.year(0, 99, 2), 13);
         Check.due("year: seed -1", x.year(-1, 1, 0), OUTSIDE);
         Check.due("year: seed 10000", x.year(10000, 1, 0), OUTSIDE);
         Check.due("year: m 0", x.year(0, 0, 0), OUTSIDE);

@@ -65,6 +65,15 @@ public final class ImagesTest {
         Check.same("all is as it was", Check.allTold(x), before);
         Check.due("the wishes are", x.nine(1), 9);
         Check.due("the sights are", x.hollow(), 1);
+        x.forget();
+        x.seen(4, 8, 1);
+        x.image(0);
+        spoil(x);
+        x.forget();
+        x.seen(16, 32, 0);
+        x.restore(0);
+        Check.due("right and outcome are", x.hollow(), 8);
+        x.restore(1);
         spoil(x);
         Check.due("restore(1) twice", x.restore(1), 1);
         Check.same("all is as it was, twice", Check.allTold(x), before);

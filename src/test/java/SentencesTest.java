@@ -125,6 +125,14 @@ public final class SentencesTest {
         pool(x, 8, 2, 10);
         x.speaker(3, 0, Check.set("abdefghij"));
         pool(x, 3, NONE, NONE);
+        x.speaker(0, 0, Check.set("a"));
+        x.speaker(1, 0, Check.set("b"));
+        x.speaker(2, 0, Check.set("a"));
+        x.speaker(3, 0, Check.set("c"));
+        // A thing, a deed, a thing, and no sort.
+        pool(x, 3, 3, 11);
+        x.speaker(1, 0, Check.set("d"));
+        pool(x, 3, 3, 11);
         Check.due("pool(0, 0)", x.pool(0, 0), OUTSIDE);
         Check.due("pool(9, 0)", x.pool(9, 0), OUTSIDE);
         Check.due("pool(2, -1)", x.pool(2, -1), OUTSIDE);
